@@ -44,10 +44,8 @@ public final class WidowRoads {
     /** Y 7 has no cell below it, though the next spot is there: it is the top of the next column. */
     private static final long NOT_LOWEST = 0x7F7F7F7F7F7F7F7FL;
 
-    private final Tape tape = new Tape();
+    private final Reader reader = new Reader();
     private final Colony told = new Colony();
-    private final Colony fresh = new Colony();
-    private final Reader reader = new Reader(tape, fresh);
     /** null: an image that keeps nothing yet. */
     private final Colony[] images = new Colony[MAX_IMAGES];
     private final Supposal supposal = new Supposal();
@@ -65,22 +63,22 @@ public final class WidowRoads {
     // ---- the tape and the colony
 
     public int feed(int a, int b, int c, int d, int e) {
-        if (tape.length > MAX_TAPE - 20) {
+        if (reader.tape.length > MAX_TAPE - 20) {
             return NONE;
         }
-        tape.put(a);
-        tape.put(b);
-        tape.put(c);
-        tape.put(d);
-        tape.put(e);
-        return tape.length;
+        reader.tape.put(a);
+        reader.tape.put(b);
+        reader.tape.put(c);
+        reader.tape.put(d);
+        reader.tape.put(e);
+        return reader.tape.length;
     }
 
     public int end(int n) {
-        if (n < 0 || n > tape.length) {
+        if (n < 0 || n > reader.tape.length) {
             return NONE;
         }
-        tape.length = n;
+        reader.tape.length = n;
         return n;
     }
 
@@ -89,8 +87,8 @@ public final class WidowRoads {
         if (reader.fault != 0) {
             return FAULTY;
         }
-        tape.length = 0;
-        told.become(fresh);
+        reader.tape.length = 0;
+        told.become(reader.into);
         walkAnew();
         return told.lines;
     }
@@ -716,7 +714,7 @@ public final class WidowRoads {
             case 9:
                 return told.lines;
             case 10:
-                return tape.length;
+                return reader.tape.length;
             case 11:
                 return rows.many();
             default:
@@ -1002,7 +1000,7 @@ public final class WidowRoads {
         }
     }
 
-    /** Reads a tape as a colony; what stands behind the first fault is not looked at. */
+    /** The tape, and how it is read as a colony; what stands behind the first fault is not looked at. */
     private static final class Reader {
         private static final int AT_END = 0;
         private static final int WORD = 1;
@@ -1014,16 +1012,12 @@ public final class WidowRoads {
 
         private int fault;
         private int place = NONE;
-        private final Tape tape;
-        private final Colony into;
+        private final Tape tape = new Tape();
+        /** What has been read: a whole colony only when there is no fault. */
+        private final Colony into = new Colony();
         private int kind;
         private int start;
         private int stop;
-
-        private Reader(Tape tape, Colony into) {
-            this.tape = tape;
-            this.into = into;
-        }
 
         private void read() {
             into.clear();

@@ -25,6 +25,9 @@ final class ActTest {
         WidowRoads x = Due.told(Colonies.TWO_YEARS);
         due.all(x, "keeps(2)=-2 keeps(-1)=-2 count(8)=0 keeps(1)=3 count(8)=1 steps(1)=-1 evening(1)=0 evening(0)=1"
                 + " keeps(1)=3 count(8)=2 undo()=1 steps(1)=-1 undo()=0 steps(1)=5");
+        due.about("promise 58 bridges nothing, promise 57 keeps no one in");
+        due.all(Due.told("colony years 1 law 0 odds 0 wide 2 high 2;creek 0 0;widow 0 1 faces 1 steps 1 at 0 grief on;"),
+                "keeps(0)=0 creek(0)=1 undo()=0 bridge(0)=1 creek(0)=0 steps(0)=1");
     }
 
     private static void takingBack() {

@@ -20,6 +20,9 @@ final class HouseTest {
                 + "widow 0 0 faces 1 steps 2 at 0 grief on;");
         due.all(x, "house(0,1)=11 house(1,1)=1 house(2,1)=12 moved(0)=1 moved(1)=0 moved(2)=1 moves(0)=2 served(1)=2"
                 + " bridge(2)=2 house(0,1)=2 house(2,1)=11");
+        due.about("to the very least cell");
+        due.all(Due.told("colony years 1 law 0 odds 0 wide 3 high 2;house 1 0;widow 2 0 faces 3 steps 1 at 0 grief on;"),
+                "house(0,1)=0 moved(0)=1 served(1)=1");
         due.about("a creek told behind a house");
         due.all(Due.told(Colonies.CREEK_AT_HOME), "house(0,0)=10 house(0,1)=11 moves(0)=1 served(1)=1");
         due.about("a house is served by a road beside it, not aslant");

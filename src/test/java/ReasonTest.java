@@ -15,6 +15,12 @@ final class ReasonTest {
         due.all(Due.told("colony years 1 law 0 odds 0 wide 3 high 2;widow 0 0 faces 1 steps 1 at 0 grief on;"
                 + "widow 1 0 faces 1 steps 1 at 0 grief on;widow 0 0 faces 1 steps 2 at 0 grief on;"),
                 "cover()=1 covers()=4");
+        // each one is in cells of her own
+        StringBuilder seven = new StringBuilder("colony years 1 law 0 odds 0 wide 8 high 2;");
+        for (int w = 0; w < 7; w++) {
+            seven.append("widow " + w + " 0 faces 2 steps 1 at 0 grief on;");
+        }
+        due.all(Due.told(seven.toString()), "cover()=7 covers()=127 keeps(6)=6 cover()=6 covers()=63 pegs(1)=6");
         due.about("promise 42");
         due.all(x, "blame()=0 keeps(0)=3 blame()=-1 anew()=1 blame()=0");
         due.all(Due.told(Colonies.GONE), "blame()=0");

@@ -20,7 +20,7 @@ final class SlotTest {
         due.about("promise 67, the slot stays");
         x = Due.told(Colonies.TWO_YEARS);
         due.all(x, "row(0,0,3)=0 write(0,2,10)=0 laws(0)=0 row(0,0,-1)=-3 laws(0)=0 row(0,0,61)=-2 laws(0)=0 row(0,0,3)=0"
-                + " laws(0)=15 row(0,0,2)=0 laws(0)=-2");
+                + " laws(0)=15 write(0,0,5)=0 laws(0)=-2 row(0,3,3)=0 laws(0)=15 row(0,0,2)=0 laws(0)=-2");
     }
 
     private static void writing() {

@@ -60,8 +60,10 @@ final class TapeTest {
                 Due.tell(x, "colony\nyears2law0odds5wide3high3;creek0 2;\n\n widow 1 1faces0steps007at1grief on left"
                         + " right\nback;  "), 3);
         due.all(x, "widow(0,2)=7 widow(0,4)=4 creek(2)=1 count(4)=3 grief(0,0)=0 grief(0,1)=3");
+        due.is("another one", Due.tell(x, "colony years 3 law 2 odds 9 wide 4 high 4;house 1 1;"), 2);
         due.is("0 lines in place of some", x.colony(), 0);
-        due.all(x, "count(9)=0 roads(0)=-2 widow(0,0)=-2 undo()=-2 count(3)=0");
+        due.all(x, "count(9)=0 roads(0)=-2 widow(0,0)=-2 undo()=-2 count(0)=0 count(1)=0 count(2)=0 count(3)=0"
+                + " count(4)=0 count(5)=0 count(6)=0 count(7)=0 road(0,0)=-2 creek(0)=-2 chance(0,0)=-2 worth(0)=-2");
         due.is("the most of all", Due.tell(x, "colony years 12 law 3 odds 10 wide 8 high 8;"
                 + "creek 7 0;creek 7 1;creek 7 2;creek 7 3;creek 7 4;creek 7 5;creek 7 6;creek 7 7;creek 6 0;creek 6 1;"
                 + "creek 6 2;creek 6 3;house 0 0;house 0 1;house 0 2;house 0 3;house 0 4;house 0 5;"
@@ -110,6 +112,12 @@ final class TapeTest {
         fault(HEAD + HEAD, 1, 42);
         fault(HEAD + "1", 1, 42);
         fault(HEAD + "cree 1 1;", 1, 42);
+        fault(HEAD + "dreek 1 1;", 1, 42);
+        fault(HEAD + "creekz 1 1;", 1, 42);
+        fault(HEAD + "creek{ 1 1;", 1, 47);
+        fault(HEAD + "creek` 1 1;", 1, 47);
+        fault(HEAD + "creek 1: 1;", 1, 49);
+        fault(HEAD + "creek 1/ 1;", 1, 49);
         fault(HEAD + "creek 1;", 1, 49);
         fault(HEAD + "creek 1 1", 1, 51);
         fault(HEAD + "creek 1 1 ", 1, 52);
@@ -121,6 +129,7 @@ final class TapeTest {
         fault(HEAD + "widow 0 0 faces 1 steps 1 at 0;", 1, 72);
         fault(HEAD + "widow 0 0 faces 1 steps 1 at 0 grief;", 1, 78);
         fault(HEAD + "widow 0 0 faces 1 steps 1 at 0 grief up;", 1, 79);
+        fault(HEAD + "widow 0 0 faces 1 steps 1 at 0 grief in;", 1, 79);
         fault(HEAD + "widow 0 0 faces 1 steps 1 at 0 grief on up;", 1, 82);
         fault(HEAD + "widow 0 0 faces 1 steps 1 at 0 grief on 1;", 1, 82);
         fault(HEAD + "widow 0 0 faces 1 steps 1 at 0 grief on", 1, 81);
