@@ -1,9 +1,22 @@
 import java.lang.reflect.InvocationTargetException;
 import java.lang.reflect.Method;
+import java.lang.reflect.Modifier;
 import java.nio.charset.StandardCharsets;
+import java.util.HashMap;
+import java.util.Map;
 
 /** Asks calls and tells those whose answer is not the one that is due. */
 final class Due {
+    private static final Map<String, Method> METHODS = new HashMap<>();
+
+    static {
+        for (Method method : WidowRoads.class.getDeclaredMethods()) {
+            if (Modifier.isPublic(method.getModifiers())) {
+                METHODS.put(method.getName(), method);
+            }
+        }
+    }
+
     private int asked;
     private int wrong;
     private String about = "";
@@ -19,6 +32,23 @@ final class Due {
             wrong++;
             System.out.println(about + ": " + what + " answered " + got + ", due is " + want);
         }
+    }
+
+    void same(String what, String got, String want) {
+        asked++;
+        if (!got.equals(want)) {
+            wrong++;
+            System.out.println(about + ": " + what + " it is " + got + ", due is " + want);
+        }
+    }
+
+    void fail(String why) {
+        wrong++;
+        System.out.println(about + ": " + why);
+    }
+
+    int asked() {
+        return asked;
     }
 
     /** Calls with what is due, parted by blanks: "at(0,1)=10 steps(0)=3". */
@@ -71,15 +101,15 @@ final class Due {
         return value;
     }
 
-    private static long answer(WidowRoads x, String call) {
+    /** What a call answers that is told as a text, such as at(0,1). */
+    static long answer(WidowRoads x, String call) {
         int open = call.indexOf('(');
         String name = call.substring(0, open);
         String inner = call.substring(open + 1, call.length() - 1);
         String[] parts = inner.isEmpty() ? new String[0] : inner.split(",");
-        for (Method method : WidowRoads.class.getMethods()) {
-            if (method.getName().equals(name) && method.getParameterCount() == parts.length) {
-                return invoke(x, method, parts);
-            }
+        Method method = METHODS.get(name);
+        if (method != null && method.getParameterCount() == parts.length) {
+            return invoke(x, method, parts);
         }
         throw new IllegalArgumentException(call);
     }
