@@ -26,6 +26,9 @@ final class EdgesOfActs {
         // told in all years: the widow of year 0 goes through it, too
         s.told("colony years 2 law 0 odds 0 wide 3 high 2;creek 1 0;widow 0 0 faces 1 steps 2 at 0 grief on;"
                 + "widow 0 0 faces 1 steps 2 at 1 grief on;", "at(0,1)=1 at(1,1)=1 bridge(10)=2 at(0,1)=10 at(1,1)=10 pegs(1)=2");
+        // the last cell, with a widow 0 who is not kept in by it
+        s.told("colony years 1 law 0 odds 0 wide 8 high 8;creek 7 7;widow 7 6 faces 2 steps 1 at 0 grief on;",
+                "at(0,1)=66 creek(77)=1 bridge(77)=1 creek(77)=0 at(0,1)=77 undo()=0 creek(77)=1");
         s.says("without one, too)");
         s.told(Colonies.TWO_YEARS, "bridge(0)=6 count(8)=1 creek(0)=0 bridge(32)=6 count(8)=2 bridge(0)=6 count(8)=3");
         // bridged again is one act more
@@ -54,6 +57,9 @@ final class EdgesOfActs {
         s.told(Colonies.TWO_YEARS, "keeps(0)=3 steps(0)=-1 at(0,0)=-1 evening(0)=0 road(0,1)=0 house(0,1)=20 steps(1)=5");
         s.told(Colonies.TWO_YEARS, "keeps(0)=3 keeps(0)=3 count(8)=2 undo()=1 steps(0)=-1 undo()=0 steps(0)=3");
         s.told("colony years 1 law 0 odds 0 wide 2 high 2;widow 0 0 faces 1 steps 1 at 1 grief on;", "keeps(0)=0 count(8)=1");
+        // no creek is bridged by it
+        s.told("colony years 1 law 0 odds 0 wide 2 high 2;creek 0 0;creek 1 0;widow 0 1 faces 1 steps 1 at 0 grief on;"
+                + "widow 0 1 faces 1 steps 1 at 0 grief on;", "keeps(0)=1 creek(0)=1 creek(10)=1 keeps(1)=0 creek(0)=1 creek(10)=1");
         s.says("PEGS in the last YEAR then.");
         s.told(Colonies.TWO_YEARS, "keeps(0)=3 pegs(2)=3 keeps(1)=0 pegs(2)=0");
         // one less in the way may make more of them
@@ -146,6 +152,9 @@ final class EdgesOfActs {
         WidowRoads x = Due.told(Colonies.TWO_YEARS);
         s.all(x, "image(0)=0 keeps(0)=3 image(1)=0 bridge(11)=5 image(2)=0 anew()=2 rate(1,1)=5 pegs(2)=4 back(0)=0"
                 + " count(8)=0 pegs(2)=6 widow(1,2)=5 back(1)=0 count(8)=1 pegs(2)=3 back(2)=0 count(8)=2 pegs(2)=5");
+        // other acts since then are no acts of it
+        s.told(Colonies.TWO_YEARS, "keeps(0)=3 image(0)=0 undo()=0 bridge(11)=7 keeps(1)=3 back(0)=0 count(8)=1 steps(0)=-1"
+                + " creek(11)=1 steps(1)=5 undo()=0 steps(0)=3 pegs(2)=6");
         // in place of what it had; no colony is kept, too
         s.all(x, "image(0)=0 undo()=1 back(0)=0 count(8)=2 colony()=0 image(0)=0 back(1)=0 count(9)=5 back(0)=0 count(9)=0");
         s.all(new WidowRoads(), "image(2)=0 back(2)=0 count(9)=0 back(1)=-6");

@@ -18,6 +18,11 @@ final class EdgesOfRoads {
             + "widow 0 0 faces 2 steps 7 at 0 grief on;widow 1 0 faces 2 steps 7 at 0 grief on;"
             + "widow 0 3 faces 1 steps 7 at 0 grief on;";
 
+    /** Law 1 winds four widows inwards, one behind the other, through all 64 cells from 0 to 34. */
+    private static final String WINDING = "colony years 1 law 1 odds 0 wide 8 high 8;house 3 3;"
+            + "widow 0 0 faces 1 steps 27 at 0 grief on;widow 0 1 faces 1 steps 20 at 0 grief on;"
+            + "widow 1 2 faces 1 steps 12 at 0 grief on;widow 2 3 faces 1 steps 4 at 0 grief on;";
+
     private final Sentences s;
 
     private EdgesOfRoads(Sentences s) {
@@ -55,6 +60,7 @@ final class EdgesOfRoads {
         s.told(Colonies.TWO_YEARS, "roads(0)=0 roads(1)=4 roads(2)=8");
         s.told(Colonies.GONE, "roads(1)=4 roads(2)=4");
         s.told(Colonies.BARE, "roads(0)=0 roads(12)=0");
+        s.told(WINDING, "at(0,27)=1 at(1,20)=12 at(2,12)=23 at(3,4)=34 roads(1)=64 house(0,1)=-1 road(77,1)=1");
         s.says("-2: there is none such");
         noYear("roads");
         s.says("no COLONY.");
@@ -65,6 +71,7 @@ final class EdgesOfRoads {
         s.told(Colonies.TWO_YEARS, "pegs(0)=0 pegs(1)=3 pegs(2)=6");
         s.told(STREETS, "pegs(1)=21");
         s.told(Colonies.BARE, "pegs(0)=0 pegs(12)=0");
+        s.told(WINDING, "pegs(1)=63");
         s.says("-2 likewise.");
         noYear("pegs");
         s.refusesWithoutColony(-2, "pegs(0)");
@@ -87,6 +94,7 @@ final class EdgesOfRoads {
                 + " corners(4,1)=0 corners(1,2)=4 corners(2,2)=4");
         // a cell that is ROAD without a PEG
         s.told(Colonies.SHUT_IN, "corners(0,0)=0 corners(0,1)=1 corners(1,1)=0 corners(4,1)=0");
+        s.told(WINDING, "corners(0,1)=0 corners(1,1)=2 corners(2,1)=62 corners(3,1)=0 corners(4,1)=0");
         s.told(STREETS, "corners(0,1)=0 corners(1,1)=5 corners(2,1)=15 corners(3,1)=1 corners(4,1)=1");
         s.says("-2: there are none such");
         s.refuses(-2, "corners(#,0)", "-1 -2147483648 5 6 2147483647");
@@ -101,6 +109,7 @@ final class EdgesOfRoads {
         s.told(Colonies.TWO_YEARS, "nets(0)=0 nets(1)=1 nets(2)=2");
         s.told(Colonies.SHUT_IN, "nets(0)=0 nets(1)=1");
         s.told(APART, "nets(1)=2 nets(2)=3");
+        s.told(WINDING, "nets(1)=1 missing(1)=0 rings(1)=0");
         s.says("-2: there is none such");
         noYear("nets");
         s.says("no COLONY.");
@@ -153,6 +162,7 @@ final class EdgesOfRoads {
         s.told(Colonies.TWO_YEARS, "bridges(0)=0 bridges(1)=3 bridges(2)=6");
         s.told(RING, "bridges(0)=0 bridges(1)=1");
         s.told(STREETS, "bridges(1)=21");
+        s.told(WINDING, "bridges(1)=63");
         s.told(Colonies.SHUT_IN, "bridges(1)=0");
         s.says("-2 likewise.");
         noYear("bridges");
@@ -163,6 +173,7 @@ final class EdgesOfRoads {
         s.told(Colonies.TWO_YEARS, "net(0,1)=4 net(30,2)=4 net(1,2)=4 net(2,2)=4");
         s.told(Colonies.SHUT_IN, "net(0,1)=1");
         s.told(STREETS, "net(0,1)=22 net(73,1)=22");
+        s.told(WINDING, "net(0,1)=64 net(77,1)=64 net(34,1)=64");
         s.says("(0: it is no ROAD).");
         s.told(Colonies.TWO_YEARS, "net(0,0)=0 net(2,1)=0 net(11,2)=0 net(32,2)=0");
         s.says("-2: there are none such.");
@@ -177,6 +188,7 @@ final class EdgesOfRoads {
         s.told(Colonies.TWO_YEARS, "way(0,30,1)=3 way(30,0,1)=3 way(2,22,2)=2 way(22,1,2)=3");
         s.told(RING, "way(1,20,1)=3 way(0,11,1)=2 way(1,0,1)=1");
         s.told(STREETS, "way(7,17,1)=9 way(0,77,1)=-1 way(7,73,1)=11");
+        s.told(WINDING, "way(0,34,1)=63 way(34,0,1)=63 way(0,77,1)=14 way(0,1,1)=27");
         s.says("(0: the same, a ROAD).");
         s.told(Colonies.TWO_YEARS, "way(0,0,1)=0 way(2,2,2)=0");
         s.told(Colonies.SHUT_IN, "way(0,0,1)=0");
@@ -213,6 +225,7 @@ final class EdgesOfRoads {
         s.told(Colonies.TWO_YEARS, "farthest(0,1)=30 farthest(20,1)=0 farthest(2,2)=22 farthest(1,2)=22");
         s.told(Colonies.SHUT_IN, "farthest(0,1)=0");
         s.told(STREETS, "farthest(7,1)=73 farthest(73,1)=7");
+        s.told(WINDING, "farthest(0,1)=34 farthest(34,1)=0 farthest(77,1)=34");
         s.says("the least of several.");
         s.told("colony years 1 law 0 odds 0 wide 3 high 2;widow 0 0 faces 1 steps 2 at 0 grief on;", "farthest(10,1)=0");
         s.told(RING, "farthest(20,1)=1 farthest(10,1)=1 farthest(0,1)=11");
@@ -235,6 +248,9 @@ final class EdgesOfRoads {
         s.says("the least of several, if any is.");
         s.told(Colonies.TWO_YEARS, "crossing()=0 keeps(0)=3 crossing()=1");
         s.told("colony years 1 law 0 odds 0 wide 8 high 8;widow 7 7 faces 0 steps 1 at 0 grief on;", "crossing()=76");
+        // twice 77: in it are two
+        s.told("colony years 1 law 0 odds 0 wide 8 high 8;widow 7 7 faces 0 steps 1 at 0 grief on;"
+                + "widow 7 7 faces 3 steps 1 at 0 grief on;", "crossing()=77 walked(77)=3 shared(0,1)=1");
         s.says("NONE: none");
         s.told(Colonies.BARE, "crossing()=-1");
         s.told(Colonies.TWO_YEARS, "keeps(0)=3 keeps(1)=0 crossing()=-1 undo()=1 crossing()=1");

@@ -244,6 +244,10 @@ final class EdgesOfSets {
         s.says("0 if she stays in; the other one likewise.");
         s.told(losing(), "gets(0,1,1,0)=0 gets(0,1,1,1)=0 gets(1,0,1,0)=0 gets(1,0,1,1)=0");
         s.says("REST: neither GETS more by the other choice alone.");
+        // widow 1 moves two houses to where widow 0 then walks: 0 gets 2 less for it, 2 more without her
+        s.told("colony years 2 law 0 odds 0 wide 8 high 2;house 6 0;house 7 0;widow 0 0 faces 2 steps 1 at 1 grief on;"
+                + "widow 3 0 faces 1 steps 4 at 0 grief on;", "gets(0,1,0,0)=-2 gets(0,1,0,1)=2 gets(1,0,0,0)=1"
+                + " gets(1,0,0,1)=1 rests(0,1)=2 rests(1,0)=4");
         s.told(losing(), "rests(0,1)=2");
         s.told(Colonies.GONE, "rests(0,1)=3");
         s.of("IX");

@@ -122,6 +122,8 @@ final class EdgesOfTape {
         s.all(x, "keeps(0)=3 image(0)=0 row(0,0,3)=0 colony()=0 count(9)=0 count(8)=0 count(0)=0 count(3)=0 count(7)=0"
                 + " roads(0)=-2 creek(0)=-2 undo()=-2 keeps(0)=-2 crossing()=-2 count(11)=1 fault(0)=0 fault(1)=-1"
                 + " back(0)=0 count(8)=1 pegs(2)=3");
+        s.told(Colonies.BARE.replace("high 8", "high 7") + "creek 1 1;house 2 2;" + WIDOW, "colony()=0 count(0)=0 count(1)=0"
+                + " count(2)=0 count(3)=0 count(4)=0 count(5)=0 count(6)=0 count(7)=0 count(8)=0 count(9)=0 count(10)=0");
         s.says("-4: a FAULT (all stays)");
         faultStays();
     }
@@ -327,6 +329,10 @@ final class EdgesOfTape {
         s.fault(HEAD + WIDOW.replace("on", "o n"), 1, 79);
         s.fault("colony years 1 2 law 0", 1, 15);
         s.says("words (a .. z)");
+        s.fault("colonyz years 2", 1, 0);
+        s.fault("acolony years 2", 1, 0);
+        s.fault("dolony years 2", 1, 0);
+        s.fault("colonx years 2", 1, 0);
         s.fault("Colony", 1, 0);
         s.fault("coLony", 1, 0);
         s.fault("colony`", 1, 6);

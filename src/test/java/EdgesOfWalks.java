@@ -149,6 +149,9 @@ final class EdgesOfWalks {
         s.says("The cell in which she is most often (behind STEPS 0 .. the last)");
         s.told(ONE + "widow 0 0 faces 1 steps 3 at 0 grief on on back;", "at(0,2)=20 at(0,3)=10 haunt(0)=10");
         s.told(Colonies.SHUT_IN, "haunt(0)=0");
+        // the very last cell of 8 by 8: 77, 67, 77
+        s.told("colony years 1 law 0 odds 0 wide 8 high 8;widow 7 7 faces 3 steps 2 at 0 grief on back;",
+                "visits(0,77)=2 haunt(0)=77 loop(0)=2");
         s.says("the least of several.");
         s.told(Colonies.TWO_YEARS, "visits(1,2)=2 visits(1,12)=2 haunt(1)=2 haunt(0)=0");
         // 22, 21: each once
@@ -277,6 +280,7 @@ final class EdgesOfWalks {
         s.told(ONE + "creek 1 0;widow 0 0 faces 1 steps 1 at 0 grief on;", "at(0,1)=1 bridge(10)=1 at(0,1)=10");
         s.told("colony years 1 law 0 odds 0 wide 2 high 8;widow 1 7 faces 1 steps 2 at 0 grief on;",
                 "at(0,1)=7 at(0,2)=6");
+        edgesOfEight();
         s.says("1: so, and no ROAD as it was ahead of her walk");
         s.told(Colonies.SHUNNING, "at(1,1)=11");
         s.told("colony years 2 law 1 odds 0 wide 3 high 3;widow 0 0 faces 1 steps 2 at 0 grief on;"
@@ -307,6 +311,17 @@ final class EdgesOfWalks {
         s.told("colony years 1 law 3 odds 0 wide 2 high 2;widow 0 0 faces 1 steps 9 at 0 grief on;", "steps(0)=9");
         s.told("colony years 1 law 3 odds 0 wide 2 high 2;creek 1 0;creek 0 1;widow 0 0 faces 1 steps 2 at 0 grief on;"
                 + "widow 0 0 faces 1 steps 3 at 0 grief on;", "steps(0)=2 steps(1)=3 stands(1)=3");
+    }
+
+    /** From the sides and corners of 8 by 8 she turns right where there is no cell, and never comes out elsewhere. */
+    private void edgesOfEight() {
+        int[][] sides = {{3, 0, 0, 40}, {7, 4, 1, 75}, {3, 7, 2, 27}, {0, 4, 3, 3},
+            {0, 0, 0, 10}, {0, 0, 3, 10}, {7, 0, 0, 71}, {7, 0, 1, 71}, {7, 7, 1, 67}, {7, 7, 2, 67}, {0, 7, 2, 6},
+            {0, 7, 3, 6}, {7, 6, 1, 77}, {1, 7, 2, 7}, {0, 1, 3, 0}, {6, 0, 0, 70}};
+        for (int[] side : sides) {
+            s.told("colony years 1 law 0 odds 0 wide 8 high 8;widow " + side[0] + " " + side[1] + " faces " + side[2]
+                    + " steps 1 at 0 grief on;", "at(0,1)=" + side[3] + " stands(0)=0 pegs(1)=1 roads(1)=2");
+        }
     }
 
     private void pegging() {

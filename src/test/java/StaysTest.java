@@ -18,7 +18,23 @@ final class StaysTest {
             stays(Histories::full, question);
             stays(Histories::none, question);
         }
+        behindEachOther(Histories::rich);
+        behindEachOther(Histories::full);
         due.finish();
+    }
+
+    /** No question answers otherwise for one that was asked just ahead of it. */
+    private static void behindEachOther(Supplier<WidowRoads> history) {
+        String[] questions = QUESTIONS.split(" ");
+        for (String ahead : questions) {
+            WidowRoads x = history.get();
+            for (String question : questions) {
+                due.about(question + " behind " + ahead);
+                long alone = Due.answer(history.get(), question);
+                Due.answer(x, ahead);
+                due.is("it", Due.answer(x, question), alone);
+            }
+        }
     }
 
     private static void stays(Supplier<WidowRoads> history, String question) {
