@@ -163,6 +163,13 @@ final class EdgesOfSeen {
         s.says("The STEP of which to know her cell leaves fewest of faced() at worst");
         seen(MIDDLE, "", "ask(0,0)=1 leaves(0,0)=1");
         seen(Colonies.TWO_YEARS, "", "ask(0,1)=1 leaves(0,1)=3");
+        // at the upper side D 0 and 1 lead to one cell: two are left at worst
+        seen("colony years 1 law 0 odds 0 wide 5 high 3;widow 2 0 faces 1 steps 1 at 0 grief on;", "",
+                "ask(0,0)=1 leaves(0,0)=2");
+        // widow 1 comes to 40 if widow 0 did not go to 30: D 2 and 3 are left, and her first cell parts them
+        seen("colony years 1 law 3 odds 0 wide 5 high 3;widow 2 0 faces 1 steps 1 at 0 grief on;"
+                + "widow 3 2 faces 0 steps 3 at 0 grief on;", "1 3 40", "at(0,1)=30 steps(1)=2 faced(0,0)=12 ask(0,0)=1"
+                + " leaves(0,0)=1");
         s.says("if fewer than now");
         seen(Colonies.TWO_YEARS, "1 1 1", "faced(0,1)=14 ask(0,1)=-1");
         s.says("the first of several");
