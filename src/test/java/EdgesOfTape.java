@@ -306,12 +306,32 @@ final class EdgesOfTape {
                 "count(5)=12 count(6)=6 count(7)=7 house(0,0)=77 house(1,0)=76 house(2,0)=2 house(3,0)=75 house(4,0)=74"
                 + " house(5,0)=12 house(6,0)=-2 widow(0,0)=7 widow(5,0)=7 widow(6,0)=17 widow(7,0)=-2 walked(7)=63"
                 + " walked(17)=64 creek(31)=1 creek(41)=0");
+        full();
         s.says("YEARS 0 .. years.");
         s.told(Colonies.BARE, "roads(0)=0 roads(12)=0 roads(13)=-2 roads(-1)=-2");
         s.told("colony years 1 law 0 odds 0 wide 2 high 2;", "roads(0)=0 roads(1)=0 roads(2)=-2");
         s.says("A cell is told as 10 times X, and Y.");
         s.told(HEAD + "creek 7 2;" + "house 0 2;" + WIDOW.replace("0 0", "6 0"), "creek(72)=1 creek(27)=-2 house(0,0)=2"
                 + " widow(0,0)=60 at(0,0)=60 at(0,1)=70");
+    }
+
+    /**
+     * As many of all as there may be. Widow 0 moves all houses from 0 .. 5 to 6, 7, 10 .. 13, widow 1 the first two to 14,
+     * 15, widow 2 to 16, 17; widows 3 to 5 peg 57 - 56; widow 6 is shut in, in 77, by the last two creeks.
+     */
+    private void full() {
+        s.told("colony years 12 law 0 odds 10 wide 8 high 8;creek 7 0;creek 7 1;creek 7 2;creek 7 3;creek 7 4;creek 7 5;"
+                + "creek 6 0;creek 6 1;creek 6 2;creek 6 3;creek 7 6;creek 6 7;house 0 0;house 0 1;house 0 2;house 0 3;"
+                + "house 0 4;house 0 5;widow 0 0 faces 2 steps 5 at 0 grief on;widow 0 6 faces 2 steps 1 at 1 grief on;"
+                + "widow 1 4 faces 2 steps 1 at 11 grief on;" + "widow 5 7 faces 0 steps 1 at 11 grief on;".repeat(3)
+                + "widow 7 7 faces 0 steps 3 at 11 grief on;",
+                "house(0,0)=0 house(5,0)=5 house(0,1)=6 house(1,1)=7 house(2,1)=10 house(5,1)=13 house(0,2)=14 house(1,11)=15"
+                + " house(0,12)=16 house(1,12)=17 house(5,12)=13 moved(0)=3 moved(1)=3 moved(2)=1 moved(5)=1 moves(0)=6"
+                + " moves(1)=2 moves(2)=2 moves(6)=0 served(0)=0 served(1)=5 served(12)=6 evening(0)=1 evening(1)=2"
+                + " evening(11)=124 evening(12)=-2 pegs(1)=5 pegs(11)=6 pegs(12)=8 roads(12)=13 cover()=5 covers()=79"
+                + " blame()=0 ford()=11 worth(127)=8 share(3,0)=1 share(3,1)=3 share(6,0)=0 stands(6)=3 walked(56)=56"
+                + " gets(0,6,0,0)=-6 rests(0,6)=2 chance(0,0)=0 chance(0,1)=1 by(0)=8 by(1)=9 law()=1 bridge(67)=11 at(6,3)=47"
+                + " widow(6,0)=77 widow(7,0)=-2 house(6,0)=-2 count(9)=26");
     }
 
     private void tokens() {
